@@ -1,0 +1,53 @@
+/** What the tests share: a tally of wrong answers, and texts put on a page. */
+final class Due {
+    private static int wrong = 0;
+
+    private Due() {
+    }
+
+    static void is(String call, long want, long got) {
+        if (got != want) {
+            wrong++;
+            System.out.println(call + " answered " + got + ", due is " + want);
+        }
+    }
+
+    static void holds(String what, boolean so) {
+        if (!so) {
+            wrong++;
+            System.out.println("does not hold: " + what);
+        }
+    }
+
+    /** Every test's last call. */
+    static void end() {
+        System.out.println(wrong == 0 ? "all answers are as due" : wrong + " answers are not as due");
+        if (wrong != 0) {
+            System.exit(1);
+        }
+    }
+
+    static void write(TinSoldiers x, String text) {
+        for (int i = 0; i < text.length(); i++) {
+            x.letter(text.charAt(i));
+        }
+    }
+
+    static TinSoldiers laid(String carpet) {
+        TinSoldiers x = new TinSoldiers();
+        write(x, carpet);
+        holds("a carpet: " + carpet, x.carpet() >= 0);
+        return x;
+    }
+
+    static void sign(TinSoldiers x, String treaty) {
+        write(x, treaty);
+        is("treaty() of " + treaty, treaty.length(), x.treaty());
+    }
+
+    /** A refused call must leave all as it was. */
+    static void refused(String call, TinSoldiers x, long before, long want, long got) {
+        is(call, want, got);
+        is("digest() behind the refused " + call, before, x.digest());
+    }
+}
