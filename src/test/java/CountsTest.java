@@ -8,6 +8,8 @@ public final class CountsTest {
         waysOfSpies();
         waysOfOthers();
         lastSides();
+        lastWithoutFits();
+        spiesAreToldApart();
         draws();
         peasOfAfternoons();
         afternoonsRefused();
@@ -103,6 +105,36 @@ public final class CountsTest {
         Due.is("last(0), fallen", TinSoldiers.STATE, x.last(0));
         x.forget();
         Due.is("last(0), fallen, none told", TinSoldiers.STATE, x.last(0));
+    }
+
+    /** last() tells for itself, whatever fits() was asked ahead of it. */
+    private static void lastWithoutFits() {
+        TinSoldiers x = Due.laid(OPEN);
+        x.soldier(SPY, 0, 0);
+        x.soldier(SPY, 0, 1);
+        x.soldier(SOLDIER, 0, 2);
+        x.tally(3);
+        Due.is("last(0)", 0, x.last(0));
+        x.forget();
+        x.tally(1);
+        Due.is("last(0)", 1, x.last(0));
+        x.forget();
+        Due.is("fits(), none told", 1, x.fits());
+        x.tally(2);
+        Due.is("last(1)", TinSoldiers.NONE, x.last(1));
+        Due.is("last(2)", 0, x.last(2));
+    }
+
+    /** Three spies, one of which each of the others could stand for: none of them can be told. */
+    private static void spiesAreToldApart() {
+        TinSoldiers x = Due.laid(OPEN);
+        for (int spy = 0; spy < 3; spy++) {
+            x.soldier(SPY, 0, spy);
+        }
+        x.tally(1);
+        for (int spy = 0; spy < 3; spy++) {
+            Due.is("last(" + spy + ") of three", TinSoldiers.NONE, x.last(spy));
+        }
     }
 
     private static long next(long seed) {

@@ -130,8 +130,19 @@ public final class SoldiersTest {
         Due.is("shoot(0, 1, true)", 1, x.shoot(0, 1, true));
         Due.is("past one that fell", 4, x.tenths(0, 2));
         Due.is("at one that fell", 0, x.tenths(0, 1));
+        Due.is("at the first soldier", 1, x.about(2, 5));
         Due.is("by one that fell", 0, x.tenths(1, 0));
         Due.is("about(1, 5), fallen", 0, x.about(1, 5));
+        x.move(0, 4);
+        x.move(2, 9);
+        x.move(3, 14);
+        Due.is("past the first soldier", 0, x.tenths(3, 0));
+        x.move(0, 8);
+        x.move(2, 7);
+        x.move(3, 9);
+        Due.is("the first soldier stands between", 0, x.tenths(2, 3));
+        x.move(0, 0);
+        Due.is("nobody stands between", 6, x.tenths(2, 3));
         Due.is("tenths(4, 0)", TinSoldiers.UNKNOWN, x.tenths(4, 0));
         Due.is("tenths(0, 4)", TinSoldiers.UNKNOWN, x.tenths(0, 4));
         Due.is("tenths(-1, 0)", TinSoldiers.UNKNOWN, x.tenths(-1, 0));
@@ -219,6 +230,16 @@ public final class SoldiersTest {
         Due.is("it stops the pea", 1, x.about(4, 3));
         Due.is("both bent ones fall", 3, x.shoot(0, 1, true));
         Due.is("the spy went back", 1, x.about(3, 1));
+
+        x = Due.laid("...../...../.....;99");
+        x.soldier(SOLDIER, 0, 10);
+        x.soldier(BENT, 1, 5);
+        x.soldier(SOLDIER, 0, 0);
+        Due.is("upwards, into the corner", 1, x.shoot(0, 1, true));
+        x.move(0, 0);
+        x.move(2, 10);
+        x.dinner();
+        Due.is("downwards, into the corner", 1, x.shoot(0, 1, true));
 
         x = Due.laid("...../...../.....;99");
         x.soldier(SOLDIER, 0, 3);

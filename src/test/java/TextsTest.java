@@ -136,6 +136,27 @@ public final class TextsTest {
         Due.sign(x, "t");
         x.shoot(0, 1, true);
         Due.is("nobody shot yet on another carpet", TinSoldiers.NONE, x.count(8));
+        nothingOfTheOldCarpet();
+    }
+
+    private static void nothingOfTheOldCarpet() {
+        TinSoldiers x = Due.laid("...#./...../.....;99");
+        x.soldier(0, 0, 0);
+        x.soldier(0, 1, 4);
+        x.soldier(0, 1, 1);
+        x.shoot(0, 2, true);
+        Due.is("watch(1) on the old carpet", 1 << 5 | 1 << 8, x.watch(1));
+        Due.write(x, OPEN);
+        x.carpet();
+        for (int cell = 0; cell < 3; cell++) {
+            x.soldier(0, cell % 2, cell);
+            Due.is("it was not hit yet", 0, x.about(cell, 4));
+            Due.is("it stands", 1, x.about(cell, 3));
+        }
+        x.move(1, 9);
+        x.move(0, 7);
+        Due.is("no cover is around any more", 6, x.tenths(0, 1));
+        Due.is("watch(1) on another carpet", 1 << 2 | 1 << 7, x.watch(1));
     }
 
     private static void treaties() {

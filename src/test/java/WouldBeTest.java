@@ -8,6 +8,7 @@ public final class WouldBeTest {
         watchesRefused();
         oneShot();
         byTurns();
+        misses();
         likeShots();
         noTreatyCounts();
         bestsRefused();
@@ -91,6 +92,20 @@ public final class WouldBeTest {
         x.soldier(OFFICER, 1, 4);
         // Two hits of 2 tenths, if the other one misses by 8 tenths between them: -2 tenths and 32 thousandths.
         best(x, 0, 3, -21, 125, 1);
+    }
+
+    private static void misses() {
+        TinSoldiers x = Due.laid("...../...../.....;10");
+        x.soldier(SOLDIER, 0, 0);
+        x.soldier(SOLDIER, 1, 1);
+        // A miss takes its only pea: no second shot for it behind the other one's turn.
+        best(x, 0, 3, 4, 5, TinSoldiers.NONE);
+        best(x, 0, 1, 4, 5, 1);
+        best(x, 1, 2, -4, 5, TinSoldiers.NONE);
+        x = Due.laid("...../...../.....;20");
+        x.soldier(SOLDIER, 0, 0);
+        x.soldier(SOLDIER, 1, 1);
+        best(x, 0, 3, 24, 25, 1);
     }
 
     private static void likeShots() {
