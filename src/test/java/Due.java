@@ -1,6 +1,14 @@
-/** What the tests share: a tally of wrong answers, and texts put on a page. */
+import java.io.IOException;
+import java.nio.file.Files;
+import java.nio.file.Path;
+
+/** What the tests share: a tally of wrong answers, the document's sentences, and texts put on a page. */
 final class Due {
+    private static final Path DOCUMENT = Path.of("../shared/DOC.md");
+
     private static int wrong = 0;
+    private static String document = null;
+    private static String sentence = "";
 
     private Due() {
     }
@@ -8,15 +16,34 @@ final class Due {
     static void is(String call, long want, long got) {
         if (got != want) {
             wrong++;
-            System.out.println(call + " answered " + got + ", due is " + want);
+            System.out.println(sentence + call + " answered " + got + ", due is " + want);
         }
     }
 
     static void holds(String what, boolean so) {
         if (!so) {
             wrong++;
-            System.out.println("does not hold: " + what);
+            System.out.println(sentence + "does not hold: " + what);
         }
+    }
+
+    /** The answers that follow are held to this sentence, which must stand in the document word for word. */
+    static void says(String words) {
+        sentence = "";
+        holds("the document says: " + words, document().contains(words));
+        sentence = "[" + words + "] ";
+    }
+
+    private static String document() {
+        if (document == null) {
+            try {
+                document = Files.readString(DOCUMENT).replaceAll("\\s+", " ");
+            } catch (IOException gone) {
+                document = "";
+                holds("the document can be read: " + gone, false);
+            }
+        }
+        return document;
     }
 
     /** Every test's last call. */
