@@ -6,6 +6,9 @@ import java.nio.file.Path;
 final class Due {
     private static final Path DOCUMENT = Path.of("../shared/DOC.md");
 
+    /** Numbers that name nothing and are not as told, wherever they stand, but for a seed. */
+    static final int[] FAR = {Integer.MIN_VALUE, -65536, -256, 256 + 46, 65536 + 46, Integer.MAX_VALUE};
+
     private static int wrong = 0;
     private static String document = null;
     private static String sentence = "";
@@ -64,6 +67,15 @@ final class Due {
         TinSoldiers x = new TinSoldiers();
         write(x, carpet);
         holds("a carpet: " + carpet, x.carpet() >= 0);
+        return x;
+    }
+
+    /** Soldiers on a carpet, three numbers each: kind, side, cell. */
+    static TinSoldiers army(String carpet, int... told) {
+        TinSoldiers x = laid(carpet);
+        for (int i = 0; i + 2 < told.length; i += 3) {
+            is("soldier " + i / 3, i / 3, x.soldier(told[i], told[i + 1], told[i + 2]));
+        }
         return x;
     }
 

@@ -6,7 +6,6 @@ public final class EdgesOfAllTest {
     private static final int NONE = -1, UNKNOWN = -101, OUTSIDE = -102, STATE = -103, FULL = -104;
     private static final int SOLDIER = 0, OFFICER = 1, SPY = 2, GUNNER = 3, BENT = 4;
     private static final String OPEN = "...../...../.....;99";
-    private static final int[] FAR = {Integer.MIN_VALUE, -65536, -256, 256, 65536, Integer.MAX_VALUE};
 
     public static void main(String[] args) {
         imageWithoutCarpet();
@@ -37,14 +36,6 @@ public final class EdgesOfAllTest {
         Due.end();
     }
 
-    private static TinSoldiers army(String carpet, int... told) {
-        TinSoldiers x = Due.laid(carpet);
-        for (int i = 0; i + 2 < told.length; i += 3) {
-            Due.is("soldier " + i / 3, i / 3, x.soldier(told[i], told[i + 1], told[i + 2]));
-        }
-        return x;
-    }
-
     // ---- image, restore
 
     private static void imageWithoutCarpet() {
@@ -60,7 +51,7 @@ public final class EdgesOfAllTest {
 
     private static void shotsOfImage() {
         Due.says("An IMAGE is kept (one; the latest): SHOTS.");
-        TinSoldiers x = army(OPEN, OFFICER, 0, 0, OFFICER, 1, 1);
+        TinSoldiers x = Due.army(OPEN, OFFICER, 0, 0, OFFICER, 1, 1);
         for (int shots = 0; shots <= 18; shots++) {
             Due.is("image() behind " + shots, shots, x.image());
             Due.is("restore() behind " + shots, shots, x.restore());
@@ -71,7 +62,7 @@ public final class EdgesOfAllTest {
 
     private static void theLatestImage() {
         Due.says("(one; the latest)");
-        TinSoldiers x = army(OPEN, SOLDIER, 0, 0, SOLDIER, 1, 1);
+        TinSoldiers x = Due.army(OPEN, SOLDIER, 0, 0, SOLDIER, 1, 1);
         x.image();
         x.move(0, 5);
         x.image();
@@ -84,7 +75,7 @@ public final class EdgesOfAllTest {
 
     private static void noneWasKept() {
         Due.says("It goes on from the IMAGE: SHOTS. STATE: none was kept, or there is another CARPET since.");
-        TinSoldiers x = army(OPEN, SOLDIER, 0, 0, SOLDIER, 1, 1);
+        TinSoldiers x = Due.army(OPEN, SOLDIER, 0, 0, SOLDIER, 1, 1);
         x.shoot(0, 1, true);
         Due.refused("restore()", x, x.digest(), STATE, x.restore());
         Due.is("restore() of a new one", STATE, new TinSoldiers().restore());
@@ -92,7 +83,7 @@ public final class EdgesOfAllTest {
 
     private static void anotherCarpetSince() {
         Due.says("or there is another CARPET since");
-        TinSoldiers x = army(OPEN, SOLDIER, 0, 0);
+        TinSoldiers x = Due.army(OPEN, SOLDIER, 0, 0);
         x.image();
         Due.write(x, OPEN);
         x.carpet();
@@ -109,7 +100,7 @@ public final class EdgesOfAllTest {
 
     private static void refusedCarpetSince() {
         Due.says("they change nothing.");
-        TinSoldiers x = army(OPEN, SOLDIER, 0, 0);
+        TinSoldiers x = Due.army(OPEN, SOLDIER, 0, 0);
         x.image();
         x.move(0, 7);
         Due.write(x, OPEN + "9");
@@ -120,7 +111,7 @@ public final class EdgesOfAllTest {
 
     private static void againAndAgain() {
         Due.says("It goes on from the IMAGE: SHOTS.");
-        TinSoldiers x = army(OPEN, SOLDIER, 0, 0, OFFICER, 1, 1);
+        TinSoldiers x = Due.army(OPEN, SOLDIER, 0, 0, OFFICER, 1, 1);
         x.shoot(0, 1, true);
         x.image();
         long then = x.digest();
@@ -158,7 +149,7 @@ public final class EdgesOfAllTest {
 
     private static void cellsAndSides() {
         Due.says("their CELLS, SIDES");
-        TinSoldiers x = army(OPEN, SOLDIER, 0, 0, SPY, 1, 1);
+        TinSoldiers x = Due.army(OPEN, SOLDIER, 0, 0, SPY, 1, 1);
         x.image();
         x.shoot(0, 1, true);
         x.move(0, 14);
@@ -175,7 +166,7 @@ public final class EdgesOfAllTest {
 
     private static void hitsAndWhoStands() {
         Due.says("how often HIT, who STANDS");
-        TinSoldiers x = army(OPEN, SOLDIER, 0, 0, OFFICER, 1, 1, SOLDIER, 1, 5);
+        TinSoldiers x = Due.army(OPEN, SOLDIER, 0, 0, OFFICER, 1, 1, SOLDIER, 1, 5);
         x.shoot(0, 1, true);
         x.image();
         x.shoot(0, 1, true);
@@ -196,7 +187,7 @@ public final class EdgesOfAllTest {
 
     private static void peasAndShots() {
         Due.says("PEAS, SHOTS, whose the last one was");
-        TinSoldiers x = army("...../...../.....;54", SOLDIER, 0, 0, SOLDIER, 1, 1);
+        TinSoldiers x = Due.army("...../...../.....;54", SOLDIER, 0, 0, SOLDIER, 1, 1);
         x.shoot(0, 1, false);
         x.image();
         x.shoot(0, 1, false);
@@ -211,7 +202,7 @@ public final class EdgesOfAllTest {
         Due.says("whose the last one was");
         for (int side = 0; side <= 1; side++) {
             for (int then = 0; then <= 1; then++) {
-                TinSoldiers x = army(OPEN, SOLDIER, 0, 0, SOLDIER, 1, 1);
+                TinSoldiers x = Due.army(OPEN, SOLDIER, 0, 0, SOLDIER, 1, 1);
                 x.shoot(side, 1 - side, false);
                 x.image();
                 x.shoot(1 - side, side, false);
@@ -221,7 +212,7 @@ public final class EdgesOfAllTest {
                 Due.is("side " + then + " behind " + side, side == then ? 2 : NONE, x.count(8));
             }
         }
-        TinSoldiers x = army(OPEN, SOLDIER, 0, 0, SOLDIER, 1, 1);
+        TinSoldiers x = Due.army(OPEN, SOLDIER, 0, 0, SOLDIER, 1, 1);
         Due.sign(x, "t");
         x.image();
         x.shoot(0, 1, false);
@@ -232,7 +223,7 @@ public final class EdgesOfAllTest {
 
     private static void treatyAndBreach() {
         Due.says("the TREATY, the BREACH, COUNTS");
-        TinSoldiers x = army(OPEN, GUNNER, 0, 0, SOLDIER, 1, 1);
+        TinSoldiers x = Due.army(OPEN, GUNNER, 0, 0, SOLDIER, 1, 1);
         x.image();
         Due.sign(x, "gn");
         x.shoot(0, 1, false);
@@ -260,7 +251,7 @@ public final class EdgesOfAllTest {
 
     private static void countsKept() {
         Due.says("the BREACH, COUNTS.");
-        TinSoldiers x = army(OPEN, SPY, 0, 0, SPY, 0, 1, SPY, 0, 2);
+        TinSoldiers x = Due.army(OPEN, SPY, 0, 0, SPY, 0, 1, SPY, 0, 2);
         x.tally(1);
         x.tally(2);
         x.image();
@@ -284,7 +275,7 @@ public final class EdgesOfAllTest {
 
     private static void notKept() {
         Due.says("An IMAGE keeps how many soldiers there are");
-        TinSoldiers x = army(OPEN, SOLDIER, 0, 0);
+        TinSoldiers x = Due.army(OPEN, SOLDIER, 0, 0);
         Due.write(x, "ab");
         x.watch(0);
         x.best(0, 1, 0);
@@ -317,7 +308,7 @@ public final class EdgesOfAllTest {
         for (TinSoldiers x : new TinSoldiers[] {new TinSoldiers(), Due.laid(OPEN)}) {
             Due.refused("count(-1)", x, x.digest(), OUTSIDE, x.count(-1));
             Due.refused("count(14)", x, x.digest(), OUTSIDE, x.count(14));
-            for (int far : FAR) {
+            for (int far : Due.FAR) {
                 Due.is("count(" + far + ")", OUTSIDE, x.count(far));
             }
             for (int what = 0; what <= 13; what++) {
@@ -385,7 +376,7 @@ public final class EdgesOfAllTest {
     private static void digestInOrder() {
         Due.says("with a CARPET of each CELL what cell() tells for 0 to 2, FITS; of each soldier what about() tells for 0 to 5, "
             + "then for each soldier TENTHS by which it HITS that; letters of THE PAGE; what count() tells for 0 to 13.");
-        TinSoldiers x = army("##.##/##.##/#####;12", SPY, 0, 2, GUNNER, 1, 7);
+        TinSoldiers x = Due.army("##.##/##.##/#####;12", SPY, 0, 2, GUNNER, 1, 7);
         x.tally(1);
         Due.write(x, "~ ");
         long want = digest(
@@ -434,7 +425,7 @@ public final class EdgesOfAllTest {
 
     private static void digestAsks() {
         Due.says("what count() tells for 0 to 13.");
-        TinSoldiers x = army(OPEN, SOLDIER, 0, 0, SOLDIER, 1, 1);
+        TinSoldiers x = Due.army(OPEN, SOLDIER, 0, 0, SOLDIER, 1, 1);
         long before = x.digest();
         Due.is("it changes nothing", before, x.digest());
         Due.is("no watch was done by it", 0, x.count(12));

@@ -6,7 +6,6 @@ public final class EdgesOfCountsTest {
     private static final int NONE = -1, UNKNOWN = -101, OUTSIDE = -102, STATE = -103, FULL = -104;
     private static final int SOLDIER = 0, OFFICER = 1, SPY = 2, GUNNER = 3, BENT = 4;
     private static final String OPEN = "...../...../.....;99";
-    private static final int[] FAR = {Integer.MIN_VALUE, -65536, -256, 256, 65536, Integer.MAX_VALUE};
 
     public static void main(String[] args) {
         howManyToTell();
@@ -44,14 +43,6 @@ public final class EdgesOfCountsTest {
         Due.end();
     }
 
-    private static TinSoldiers army(String carpet, int... told) {
-        TinSoldiers x = Due.laid(carpet);
-        for (int i = 0; i + 2 < told.length; i += 3) {
-            Due.is("soldier " + i / 3, i / 3, x.soldier(told[i], told[i + 1], told[i + 2]));
-        }
-        return x;
-    }
-
     private static TinSoldiers spies(int many) {
         TinSoldiers x = Due.laid(OPEN);
         for (int spy = 0; spy < many; spy++) {
@@ -79,7 +70,7 @@ public final class EdgesOfCountsTest {
         TinSoldiers x = Due.laid(OPEN);
         Due.refused("tally(-1)", x, x.digest(), OUTSIDE, x.tally(-1));
         Due.refused("tally(7)", x, x.digest(), OUTSIDE, x.tally(7));
-        for (int far : FAR) {
+        for (int far : Due.FAR) {
             Due.is("tally(" + far + ")", OUTSIDE, x.tally(far));
         }
         for (int many = 0; many <= 6; many++) {
@@ -204,12 +195,12 @@ public final class EdgesOfCountsTest {
     private static void spiesOfEitherSide() {
         Due.says("all but SPIES are of the SIDE that they are of now");
         for (int side = 0; side <= 1; side++) {
-            TinSoldiers x = army(OPEN, SPY, side, 0);
+            TinSoldiers x = Due.army(OPEN, SPY, side, 0);
             fits(x, 1, 0);
             fits(x, 1, 1);
             fits(x, 1, 1, 0);
         }
-        TinSoldiers x = army(OPEN, SPY, 1, 0, SOLDIER, 0, 1);
+        TinSoldiers x = Due.army(OPEN, SPY, 1, 0, SOLDIER, 0, 1);
         x.shoot(1, 0, true);
         fits(x, 1, 1);
         fits(x, 1, 2);
@@ -218,7 +209,7 @@ public final class EdgesOfCountsTest {
     private static void allButSpies() {
         Due.says("all but SPIES are of the SIDE that they are of now");
         for (int kind : new int[] {SOLDIER, OFFICER, GUNNER, BENT}) {
-            TinSoldiers x = army(OPEN, kind, 0, 0, kind, 1, 1);
+            TinSoldiers x = Due.army(OPEN, kind, 0, 0, kind, 1, 1);
             fits(x, 0, 0);
             fits(x, 1, 1);
             fits(x, 0, 2);
@@ -236,7 +227,7 @@ public final class EdgesOfCountsTest {
 
     private static void whoFellIsNotCounted() {
         Due.says("All that STAND now do so at all of these");
-        TinSoldiers x = army(OPEN, SOLDIER, 0, 0, SOLDIER, 1, 1, OFFICER, 0, 2);
+        TinSoldiers x = Due.army(OPEN, SOLDIER, 0, 0, SOLDIER, 1, 1, OFFICER, 0, 2);
         fits(x, 1, 2);
         x.shoot(1, 2, true);
         fits(x, 1, 2);
@@ -254,13 +245,13 @@ public final class EdgesOfCountsTest {
 
     private static void numbersOfLast() {
         Due.says("LAST; NONE: it is not one, or there is no such way, or none is told. UNKNOWN; STATE: it does not STAND.");
-        TinSoldiers x = army(OPEN, SOLDIER, 0, 0, SOLDIER, 1, 1);
+        TinSoldiers x = Due.army(OPEN, SOLDIER, 0, 0, SOLDIER, 1, 1);
         tell(x, 1);
         Due.is("last(-1)", UNKNOWN, x.last(-1));
         Due.is("last(0)", 0, x.last(0));
         Due.is("last(1)", 1, x.last(1));
         Due.is("last(2)", UNKNOWN, x.last(2));
-        for (int far : FAR) {
+        for (int far : Due.FAR) {
             Due.is("last(" + far + ")", UNKNOWN, x.last(far));
         }
         Due.is("last(0) without a carpet", UNKNOWN, new TinSoldiers().last(0));
@@ -269,7 +260,7 @@ public final class EdgesOfCountsTest {
 
     private static void lastOfFallen() {
         Due.says("STATE: it does not STAND.");
-        TinSoldiers x = army(OPEN, SOLDIER, 0, 0, OFFICER, 1, 1);
+        TinSoldiers x = Due.army(OPEN, SOLDIER, 0, 0, OFFICER, 1, 1);
         tell(x, 1);
         x.shoot(0, 1, true);
         Due.is("last(1), hit once", 1, x.last(1));
@@ -286,7 +277,7 @@ public final class EdgesOfCountsTest {
 
     private static void lastOfNoneTold() {
         Due.says("or none is told");
-        TinSoldiers x = army(OPEN, SOLDIER, 0, 0, SPY, 1, 1);
+        TinSoldiers x = Due.army(OPEN, SOLDIER, 0, 0, SPY, 1, 1);
         Due.is("last(0)", NONE, x.last(0));
         Due.is("last(1)", NONE, x.last(1));
         tell(x, 1);
@@ -297,7 +288,7 @@ public final class EdgesOfCountsTest {
 
     private static void lastOfNoWay() {
         Due.says("or there is no such way");
-        TinSoldiers x = army(OPEN, SOLDIER, 0, 0, SOLDIER, 1, 5, SPY, 1, 1, SPY, 1, 2);
+        TinSoldiers x = Due.army(OPEN, SOLDIER, 0, 0, SOLDIER, 1, 5, SPY, 1, 1, SPY, 1, 2);
         for (int[] counts : new int[][] {{0}, {4}, {6}, {1, 3}, {3, 1}, {1, 2, 0}}) {
             tell(x, counts);
             for (int one = 0; one < 4; one++) {
@@ -330,7 +321,7 @@ public final class EdgesOfCountsTest {
                 Due.is("all of side 0", 0, x.last(one));
             }
         }
-        TinSoldiers x = army(OPEN, SOLDIER, 1, 0, SPY, 0, 1, GUNNER, 0, 2, SPY, 0, 3, SPY, 1, 4, BENT, 1, 5);
+        TinSoldiers x = Due.army(OPEN, SOLDIER, 1, 0, SPY, 0, 1, GUNNER, 0, 2, SPY, 0, 3, SPY, 1, 4, BENT, 1, 5);
         int[] one = {1, NONE, 0, NONE, NONE, 1};
         tell(x, 2);
         for (int i = 0; i < 6; i++) {
@@ -345,7 +336,7 @@ public final class EdgesOfCountsTest {
 
     private static void lastOfTheLastMorning() {
         Due.says("at the last of these mornings");
-        TinSoldiers x = army(OPEN, SPY, 0, 0, SPY, 1, 1);
+        TinSoldiers x = Due.army(OPEN, SPY, 0, 0, SPY, 1, 1);
         tell(x, 0, 1, 2);
         Due.is("both at last", 0, x.last(0));
         tell(x, 2, 1, 0);
@@ -354,7 +345,7 @@ public final class EdgesOfCountsTest {
         Due.is("one at last", NONE, x.last(0));
         tell(x, 0, 1, 2, 1, 0, 0);
         Due.is("none at the sixth", 1, x.last(0));
-        x = army(OPEN, SPY, 0, 0);
+        x = Due.army(OPEN, SPY, 0, 0);
         for (int mornings = 1; mornings <= 6; mornings++) {
             int[] counts = new int[mornings];
             for (int i = 0; i < mornings; i++) {
@@ -369,12 +360,12 @@ public final class EdgesOfCountsTest {
 
     private static void timesOfAfternoons() {
         Due.says("OUTSIDE: times (1 to 60), seed (0 at least), what; STATE: there are no soldiers.");
-        TinSoldiers x = army(OPEN, SOLDIER, 0, 0);
+        TinSoldiers x = Due.army(OPEN, SOLDIER, 0, 0);
         for (int what = 0; what <= 2; what++) {
             Due.is("afternoons(0, 1, " + what + ")", OUTSIDE, x.afternoons(0, 1, what));
             Due.is("afternoons(61, 1, " + what + ")", OUTSIDE, x.afternoons(61, 1, what));
             Due.is("afternoons(-1, 1, " + what + ")", OUTSIDE, x.afternoons(-1, 1, what));
-            for (int far : FAR) {
+            for (int far : Due.FAR) {
                 Due.is("afternoons(" + far + ", 1, " + what + ")", OUTSIDE, x.afternoons(far, 1, what));
             }
         }
@@ -389,7 +380,7 @@ public final class EdgesOfCountsTest {
 
     private static void seedsOfAfternoons() {
         Due.says("seed (0 at least)");
-        TinSoldiers x = army(OPEN, SOLDIER, 0, 0);
+        TinSoldiers x = Due.army(OPEN, SOLDIER, 0, 0);
         for (int what = 0; what <= 2; what++) {
             Due.is("afternoons(1, -1, " + what + ")", OUTSIDE, x.afternoons(1, -1, what));
             Due.is("the least number", OUTSIDE, x.afternoons(1, Integer.MIN_VALUE, what));
@@ -402,18 +393,18 @@ public final class EdgesOfCountsTest {
 
     private static void whatOfAfternoons() {
         Due.says("AFTERNOONS: what = 0 how many, 1 PEAS of both SIDES then, 2 the SEED then.");
-        TinSoldiers x = army(OPEN, SOLDIER, 0, 0);
+        TinSoldiers x = Due.army(OPEN, SOLDIER, 0, 0);
         Due.is("afternoons(1, 1, -1)", OUTSIDE, x.afternoons(1, 1, -1));
         Due.is("afternoons(1, 1, 3)", OUTSIDE, x.afternoons(1, 1, 3));
-        for (int far : FAR) {
+        for (int far : Due.FAR) {
             Due.is("afternoons(1, 1, " + far + ")", OUTSIDE, x.afternoons(1, 1, far));
         }
         Due.is("how many", 0, x.afternoons(1, 1, 0));
         Due.is("peas", 18, x.afternoons(1, 1, 1));
         Due.is("seed", next(next(1)), x.afternoons(1, 1, 2));
-        Due.is("no peas", 0, army("...../...../.....;00", SOLDIER, 0, 0).afternoons(1, 1, 1));
-        Due.is("peas of side 0", 4, army("...../...../.....;40", SOLDIER, 0, 0).afternoons(1, 1, 1));
-        Due.is("peas of side 1", 5, army("...../...../.....;05", SOLDIER, 0, 0).afternoons(1, 1, 1));
+        Due.is("no peas", 0, Due.army("...../...../.....;00", SOLDIER, 0, 0).afternoons(1, 1, 1));
+        Due.is("peas of side 0", 4, Due.army("...../...../.....;40", SOLDIER, 0, 0).afternoons(1, 1, 1));
+        Due.is("peas of side 1", 5, Due.army("...../...../.....;05", SOLDIER, 0, 0).afternoons(1, 1, 1));
     }
 
     private static void afternoonsWithoutSoldiers() {
@@ -451,7 +442,7 @@ public final class EdgesOfCountsTest {
     /** The seed goes round at 2 to the 31, and is never below 0. */
     private static void restOfSeeds() {
         Due.says("the next SEED each time: 1103515245 times it and 12345, its rest by 2 to the 31");
-        TinSoldiers x = army(OPEN, SOLDIER, 0, 0);
+        TinSoldiers x = Due.army(OPEN, SOLDIER, 0, 0);
         for (int seed : new int[] {0, 1, 2, 3, 1 << 16, 1 << 30, (1 << 30) - 1, 2147483646, 2147483647}) {
             long then = seed;
             for (int times = 1; times <= 12; times++) {
@@ -504,7 +495,7 @@ public final class EdgesOfCountsTest {
         Due.says("by a DRAW of 10 below its TENTHS it HITS (a PEA is taken whether it does or not)");
         for (int distance = 1; distance <= 4; distance++) {
             for (int kind : new int[] {SOLDIER, GUNNER}) {
-                TinSoldiers x = army(OPEN, kind, 0, 0, SOLDIER, 1, distance);
+                TinSoldiers x = Due.army(OPEN, kind, 0, 0, SOLDIER, 1, distance);
                 for (int draw = 0; draw <= 9; draw++) {
                     int seed = seedWith(draw);
                     boolean hits = draw < x.tenths(0, 1);
@@ -513,7 +504,7 @@ public final class EdgesOfCountsTest {
                 }
             }
         }
-        TinSoldiers x = army("...../....#/.....;99", SOLDIER, 0, 0, SOLDIER, 1, 4);
+        TinSoldiers x = Due.army("...../....#/.....;99", SOLDIER, 0, 0, SOLDIER, 1, 4);
         Due.is("draw 0 of 1", 1, x.afternoons(1, seedWith(0), 0));
         Due.is("draw 1 of 1", 0, x.afternoons(1, seedWith(1), 0));
     }
@@ -521,10 +512,10 @@ public final class EdgesOfCountsTest {
     private static void noDrawIfItCannot() {
         Due.says("if it can shoot at that");
         TinSoldiers[] cannot = {
-            army("...../...../.....;09", SOLDIER, 0, 0, SOLDIER, 1, 1),
-            army(OPEN, SOLDIER, 0, 0, SOLDIER, 1, 7),
-            army(OPEN, SOLDIER, 0, 0, SOLDIER, 0, 1),
-            army(".#.../...../.....;99", SOLDIER, 0, 0, SOLDIER, 1, 2),
+            Due.army("...../...../.....;09", SOLDIER, 0, 0, SOLDIER, 1, 1),
+            Due.army(OPEN, SOLDIER, 0, 0, SOLDIER, 1, 7),
+            Due.army(OPEN, SOLDIER, 0, 0, SOLDIER, 0, 1),
+            Due.army(".#.../...../.....;99", SOLDIER, 0, 0, SOLDIER, 1, 2),
         };
         for (TinSoldiers x : cannot) {
             int peas = x.count(1) + x.count(2);
@@ -533,7 +524,7 @@ public final class EdgesOfCountsTest {
             Due.is("nobody falls", 0, x.afternoons(1, seed, 0));
             Due.is("no pea is taken", peas, x.afternoons(1, seed, 1));
         }
-        TinSoldiers x = army(OPEN, SOLDIER, 0, 0, SOLDIER, 1, 1);
+        TinSoldiers x = Due.army(OPEN, SOLDIER, 0, 0, SOLDIER, 1, 1);
         x.shoot(0, 1, true);
         Due.is("at one that fell: two draws alone", next(next(seedWith(0))), x.afternoons(1, seedWith(0), 2));
         Due.is("no pea is taken", 17, x.afternoons(1, seedWith(0), 1));
@@ -541,13 +532,13 @@ public final class EdgesOfCountsTest {
 
     private static void peasRunOut() {
         Due.says("1 PEAS of both SIDES then");
-        TinSoldiers x = army("...../...../.....;10", SOLDIER, 0, 0, SPY, 1, 4);
+        TinSoldiers x = Due.army("...../...../.....;10", SOLDIER, 0, 0, SPY, 1, 4);
         for (int seed = 0; seed < 30; seed++) {
             int left = x.afternoons(60, seed, 1);
             Due.holds("0 or 1 are left: " + left, left == 0 || left == 1);
             Due.holds("at most one by one pea", x.afternoons(60, seed, 0) <= 1);
         }
-        x = army("...../...../.....;00", SOLDIER, 0, 0, SOLDIER, 1, 1);
+        x = Due.army("...../...../.....;00", SOLDIER, 0, 0, SOLDIER, 1, 1);
         Due.is("none to take", 0, x.afternoons(60, 5, 1));
         Due.is("nobody falls", 0, x.afternoons(60, 5, 0));
     }
@@ -555,9 +546,9 @@ public final class EdgesOfCountsTest {
     private static void fellOrWentOver() {
         Due.says("how many fell or went over");
         int hit = seedWith(0);
-        Due.is("a soldier falls", 1, army(OPEN, SOLDIER, 0, 0, SOLDIER, 1, 1).afternoons(1, hit, 0));
-        Due.is("a spy goes over", 1, army(OPEN, SOLDIER, 0, 0, SPY, 1, 1).afternoons(1, hit, 0));
-        TinSoldiers x = army(OPEN, SOLDIER, 0, 0, OFFICER, 1, 1);
+        Due.is("a soldier falls", 1, Due.army(OPEN, SOLDIER, 0, 0, SOLDIER, 1, 1).afternoons(1, hit, 0));
+        Due.is("a spy goes over", 1, Due.army(OPEN, SOLDIER, 0, 0, SPY, 1, 1).afternoons(1, hit, 0));
+        TinSoldiers x = Due.army(OPEN, SOLDIER, 0, 0, OFFICER, 1, 1);
         Due.is("an officer stands", 0, x.afternoons(1, hit, 0));
         x.shoot(0, 1, true);
         Due.is("hit once already it falls", 1, x.afternoons(1, hit, 0));
@@ -567,7 +558,7 @@ public final class EdgesOfCountsTest {
 
     private static void asTheyWouldBe() {
         Due.says("AFTERNOONS by a SEED, as they would be");
-        TinSoldiers x = army(OPEN, GUNNER, 0, 0, BENT, 1, 1, SPY, 1, 2, SPY, 0, 5, OFFICER, 1, 6, SOLDIER, 0, 12);
+        TinSoldiers x = Due.army(OPEN, GUNNER, 0, 0, BENT, 1, 1, SPY, 1, 2, SPY, 0, 5, OFFICER, 1, 6, SOLDIER, 0, 12);
         Due.sign(x, "odnt");
         long before = x.digest();
         int fell = x.afternoons(60, 77, 0);

@@ -3,7 +3,6 @@ public final class EdgesOfShotsTest {
     private static final int NONE = -1, UNKNOWN = -101, STATE = -103;
     private static final int SOLDIER = 0, OFFICER = 1, SPY = 2, GUNNER = 3, BENT = 4;
     private static final String OPEN = "...../...../.....;99";
-    private static final int[] FAR = {Integer.MIN_VALUE, -65536, -256, 256, 65536, Integer.MAX_VALUE};
 
     public static void main(String[] args) {
         numbersOfShots();
@@ -40,15 +39,6 @@ public final class EdgesOfShotsTest {
         Due.end();
     }
 
-    /** Soldiers on a carpet, three numbers each: kind, side, cell. */
-    private static TinSoldiers army(String carpet, int... told) {
-        TinSoldiers x = Due.laid(carpet);
-        for (int i = 0; i + 2 < told.length; i += 3) {
-            Due.is("soldier " + i / 3, i / 3, x.soldier(told[i], told[i + 1], told[i + 2]));
-        }
-        return x;
-    }
-
     private static void standing(String told, TinSoldiers x, int... want) {
         for (int one = 0; one < want.length; one++) {
             Due.is(told + ": whether " + one + " stands", want[one], x.about(one, 3));
@@ -59,14 +49,14 @@ public final class EdgesOfShotsTest {
 
     private static void numbersOfShots() {
         Due.says("A SHOT, which HITS or not: how many fell or went over by it. UNKNOWN: a, b; STATE: a cannot shoot at b.");
-        TinSoldiers x = army(OPEN, SOLDIER, 0, 0, SOLDIER, 1, 1);
+        TinSoldiers x = Due.army(OPEN, SOLDIER, 0, 0, SOLDIER, 1, 1);
         for (boolean hits : new boolean[] {true, false}) {
             Due.is("shoot(-1, 0)", UNKNOWN, x.shoot(-1, 0, hits));
             Due.is("shoot(0, -1)", UNKNOWN, x.shoot(0, -1, hits));
             Due.is("shoot(2, 0)", UNKNOWN, x.shoot(2, 0, hits));
             Due.is("shoot(0, 2)", UNKNOWN, x.shoot(0, 2, hits));
             Due.is("shoot(2, 2)", UNKNOWN, x.shoot(2, 2, hits));
-            for (int far : FAR) {
+            for (int far : Due.FAR) {
                 Due.is("shoot(" + far + ", 0)", UNKNOWN, x.shoot(far, 0, hits));
                 Due.is("shoot(0, " + far + ")", UNKNOWN, x.shoot(0, far, hits));
             }
@@ -83,7 +73,7 @@ public final class EdgesOfShotsTest {
 
     private static void whoCannotShoot() {
         Due.says("STATE: a cannot shoot at b.");
-        TinSoldiers x = army(OPEN, SOLDIER, 0, 0, SOLDIER, 1, 2, SOLDIER, 0, 1, SOLDIER, 1, 7);
+        TinSoldiers x = Due.army(OPEN, SOLDIER, 0, 0, SOLDIER, 1, 2, SOLDIER, 0, 1, SOLDIER, 1, 7);
         cannot("at itself", x, 0, 0);
         cannot("at its own side", x, 0, 2);
         cannot("past its own side", x, 0, 1);
@@ -91,13 +81,13 @@ public final class EdgesOfShotsTest {
         x.shoot(2, 1, true);
         cannot("at one that fell", x, 2, 1);
         cannot("by one that fell", x, 1, 2);
-        cannot("past cover", army("..#../...../.....;99", SOLDIER, 0, 0, SOLDIER, 1, 4), 0, 1);
-        cannot("without a pea", army("...../...../.....;09", SOLDIER, 0, 0, SOLDIER, 1, 1), 0, 1);
+        cannot("past cover", Due.army("..#../...../.....;99", SOLDIER, 0, 0, SOLDIER, 1, 4), 0, 1);
+        cannot("without a pea", Due.army("...../...../.....;09", SOLDIER, 0, 0, SOLDIER, 1, 1), 0, 1);
     }
 
     private static void aPeaOfItsSide() {
         Due.says("A SHOT takes a PEA of its SIDE.");
-        TinSoldiers x = army("...../...../.....;53", SOLDIER, 0, 0, OFFICER, 1, 1);
+        TinSoldiers x = Due.army("...../...../.....;53", SOLDIER, 0, 0, OFFICER, 1, 1);
         x.shoot(0, 1, true);
         Due.is("side 0 behind a hit", 4, x.count(1));
         x.shoot(0, 1, false);
@@ -106,7 +96,7 @@ public final class EdgesOfShotsTest {
         x.shoot(1, 0, false);
         Due.is("side 1 behind a miss", 2, x.count(2));
         Due.is("side 0", 3, x.count(1));
-        x = army("...../...../.....;53", SOLDIER, 0, 0, SPY, 1, 1, SOLDIER, 1, 2);
+        x = Due.army("...../...../.....;53", SOLDIER, 0, 0, SPY, 1, 1, SOLDIER, 1, 2);
         x.shoot(0, 1, true);
         x.shoot(1, 2, false);
         Due.is("a spy takes one of its new side", 3, x.count(1));
@@ -115,7 +105,7 @@ public final class EdgesOfShotsTest {
 
     private static void theLastPea() {
         Due.says("if its SIDE has a PEA");
-        TinSoldiers x = army("...../...../.....;91", OFFICER, 0, 0, SOLDIER, 1, 1);
+        TinSoldiers x = Due.army("...../...../.....;91", OFFICER, 0, 0, SOLDIER, 1, 1);
         for (int shot = 1; shot <= 9; shot++) {
             Due.is("shot " + shot, 0, x.shoot(0, 1, false));
             Due.is("left", 9 - shot, x.count(1));
@@ -133,7 +123,7 @@ public final class EdgesOfShotsTest {
     private static void fallsByOneHit() {
         Due.says("One that is HIT falls");
         for (int kind : new int[] {SOLDIER, GUNNER}) {
-            TinSoldiers x = army(OPEN, SOLDIER, 0, 0, kind, 1, 1);
+            TinSoldiers x = Due.army(OPEN, SOLDIER, 0, 0, kind, 1, 1);
             Due.is("a miss", 0, x.shoot(0, 1, false));
             standing("missed", x, 1, 1);
             Due.is("a hit", 1, x.shoot(0, 1, true));
@@ -145,7 +135,7 @@ public final class EdgesOfShotsTest {
     private static void officersFallByTwo() {
         Due.says("an OFFICER (a BENT one) only as it is HIT for the second time");
         for (int kind : new int[] {OFFICER, BENT}) {
-            TinSoldiers x = army(OPEN, SOLDIER, 0, 0, kind, 1, 1);
+            TinSoldiers x = Due.army(OPEN, SOLDIER, 0, 0, kind, 1, 1);
             Due.is("the first hit", 0, x.shoot(0, 1, true));
             standing("hit once", x, 1, 1);
             Due.is("a miss", 0, x.shoot(0, 1, false));
@@ -158,7 +148,7 @@ public final class EdgesOfShotsTest {
     private static void sinceTheyStoodUp() {
         Due.says("for the second time (since it STOOD up)");
         for (int kind : new int[] {OFFICER, BENT}) {
-            TinSoldiers x = army(OPEN, SOLDIER, 0, 0, kind, 1, 1);
+            TinSoldiers x = Due.army(OPEN, SOLDIER, 0, 0, kind, 1, 1);
             for (int afternoon = 0; afternoon < 2; afternoon++) {
                 Due.is("the first hit", 0, x.shoot(0, 1, true));
                 Due.is("the second hit", 1, x.shoot(0, 1, true));
@@ -169,7 +159,7 @@ public final class EdgesOfShotsTest {
 
     private static void spiesNeverFall() {
         Due.says("a SPY never falls, but is of the other SIDE from then on");
-        TinSoldiers x = army(OPEN, SOLDIER, 0, 0, SPY, 1, 1, SOLDIER, 1, 2);
+        TinSoldiers x = Due.army(OPEN, SOLDIER, 0, 0, SPY, 1, 1, SOLDIER, 1, 2);
         for (int round = 0; round < 4; round++) {
             Due.is("it goes over", 1, x.shoot(0, 1, true));
             Due.is("its side", 0, x.about(1, 1));
@@ -188,13 +178,13 @@ public final class EdgesOfShotsTest {
 
     private static void fliesOnWhetherItFalls() {
         Due.says("From a BENT one, whether it falls or not, the pea flies on the same way");
-        TinSoldiers x = army(OPEN, SOLDIER, 0, 0, BENT, 1, 1, OFFICER, 1, 2);
+        TinSoldiers x = Due.army(OPEN, SOLDIER, 0, 0, BENT, 1, 1, OFFICER, 1, 2);
         Due.is("it stands, the pea flies on", 0, x.shoot(0, 1, true));
         Due.is("the one behind was hit", 1, x.about(2, 4));
         Due.is("both fall", 2, x.shoot(0, 1, true));
         standing("hit twice", x, 1, 0, 0);
         for (int kind : new int[] {SOLDIER, OFFICER, SPY, GUNNER}) {
-            x = army(OPEN, SOLDIER, 0, 0, kind, 1, 1, SOLDIER, 1, 2);
+            x = Due.army(OPEN, SOLDIER, 0, 0, kind, 1, 1, SOLDIER, 1, 2);
             x.shoot(0, 1, true);
             Due.is("from kind " + kind + " it does not", 0, x.about(2, 4));
         }
@@ -209,7 +199,7 @@ public final class EdgesOfShotsTest {
                     if (Lines.distance(from, over) == 0 || there == from || there == over || Lines.isBetween(there, from, over)) {
                         continue;
                     }
-                    TinSoldiers x = army(OPEN, SOLDIER, 0, from, BENT, 1, over, SOLDIER, 1, there);
+                    TinSoldiers x = Due.army(OPEN, SOLDIER, 0, from, BENT, 1, over, SOLDIER, 1, there);
                     boolean behind = Lines.isBetween(over, from, there);
                     String told = "from " + from + " over " + over + ", one on " + there;
                     Due.is(told, behind ? 1 : 0, x.shoot(0, 1, true));
@@ -224,26 +214,26 @@ public final class EdgesOfShotsTest {
         Due.says("the pea flies on the same way");
         int[][] edges = {{3, 4, 5}, {8, 9, 10}, {6, 5, 4}, {11, 10, 9}, {1, 5, 9}, {6, 10, 14}, {8, 4, 0}, {13, 9, 5}};
         for (int[] edge : edges) {
-            TinSoldiers x = army(OPEN, SOLDIER, 0, edge[0], BENT, 1, edge[1], SOLDIER, 0, edge[2]);
+            TinSoldiers x = Due.army(OPEN, SOLDIER, 0, edge[0], BENT, 1, edge[1], SOLDIER, 0, edge[2]);
             Due.is("nobody falls", 0, x.shoot(0, 1, true));
             standing("over " + edge[1], x, 1, 1, 1);
         }
         int[][] ends = {{5, 0}, {6, 0}, {6, 1}, {8, 4}, {9, 4}, {5, 10}, {8, 14}, {9, 14}, {13, 14}, {1, 0}};
         for (int[] end : ends) {
             Due.is("nothing is behind " + end[1], -1, Lines.behind(end[0], end[1]));
-            Due.is("off the carpet", 0, army(OPEN, SOLDIER, 0, end[0], BENT, 1, end[1]).shoot(0, 1, true));
+            Due.is("off the carpet", 0, Due.army(OPEN, SOLDIER, 0, end[0], BENT, 1, end[1]).shoot(0, 1, true));
         }
     }
 
     private static void firstThatStandsBehind() {
         Due.says("the first soldier that STANDS behind it");
-        TinSoldiers x = army(OPEN, SOLDIER, 0, 0, BENT, 1, 1, SOLDIER, 1, 3, SOLDIER, 1, 4);
+        TinSoldiers x = Due.army(OPEN, SOLDIER, 0, 0, BENT, 1, 1, SOLDIER, 1, 3, SOLDIER, 1, 4);
         Due.is("over an empty cell, the first of two", 1, x.shoot(0, 1, true));
         standing("first", x, 1, 1, 0, 1);
         Due.is("over a fallen one, and the bent one falls", 2, x.shoot(0, 1, true));
         standing("then", x, 1, 0, 0, 0);
         Due.is("one that fell is not hit again", 1, x.about(2, 4));
-        x = army(OPEN, SOLDIER, 0, 5, BENT, 1, 8, SOLDIER, 0, 9);
+        x = Due.army(OPEN, SOLDIER, 0, 5, BENT, 1, 8, SOLDIER, 0, 9);
         Due.is("as far as it goes", 1, x.shoot(0, 1, true));
         standing("far", x, 1, 1, 0);
     }
@@ -251,10 +241,10 @@ public final class EdgesOfShotsTest {
     private static void ofWhicheverSide() {
         Due.says("of whichever SIDE, is HIT, too");
         for (int side = 0; side <= 1; side++) {
-            TinSoldiers x = army(OPEN, SOLDIER, 0, 0, BENT, 1, 1, SOLDIER, side, 2);
+            TinSoldiers x = Due.army(OPEN, SOLDIER, 0, 0, BENT, 1, 1, SOLDIER, side, 2);
             Due.is("one of side " + side, 1, x.shoot(0, 1, true));
             standing("side " + side, x, 1, 1, 0);
-            x = army(OPEN, SOLDIER, 0, 0, BENT, 1, 1, SPY, side, 2);
+            x = Due.army(OPEN, SOLDIER, 0, 0, BENT, 1, 1, SPY, side, 2);
             Due.is("a spy of side " + side, 1, x.shoot(0, 1, true));
             Due.is("it went over", 1 - side, x.about(2, 1));
         }
@@ -262,43 +252,43 @@ public final class EdgesOfShotsTest {
 
     private static void noCoverAhead() {
         Due.says("if no COVER is ahead of that");
-        TinSoldiers x = army("..#../...../.....;99", SOLDIER, 0, 0, BENT, 1, 1, SOLDIER, 1, 3);
+        TinSoldiers x = Due.army("..#../...../.....;99", SOLDIER, 0, 0, BENT, 1, 1, SOLDIER, 1, 3);
         Due.is("cover right behind", 0, x.shoot(0, 1, true));
-        x = army("...#./...../.....;99", SOLDIER, 0, 0, BENT, 1, 1, SOLDIER, 1, 4);
+        x = Due.army("...#./...../.....;99", SOLDIER, 0, 0, BENT, 1, 1, SOLDIER, 1, 4);
         Due.is("cover right ahead of it", 0, x.shoot(0, 1, true));
-        x = army("...#./...../.....;99", SOLDIER, 0, 0, BENT, 1, 1, SOLDIER, 1, 2);
+        x = Due.army("...#./...../.....;99", SOLDIER, 0, 0, BENT, 1, 1, SOLDIER, 1, 2);
         Due.is("cover behind it", 1, x.shoot(0, 1, true));
-        x = army("...../..#../.....;99", SOLDIER, 0, 0, BENT, 1, 1, SOLDIER, 1, 3);
+        x = Due.army("...../..#../.....;99", SOLDIER, 0, 0, BENT, 1, 1, SOLDIER, 1, 3);
         Due.is("cover beside the way", 1, x.shoot(0, 1, true));
-        x = army("...../...../..#..;99", SOLDIER, 0, 0, BENT, 1, 6, SOLDIER, 1, 13);
+        x = Due.army("...../...../..#..;99", SOLDIER, 0, 0, BENT, 1, 6, SOLDIER, 1, 13);
         Due.is("cover at the end of a diagonal", 0, x.shoot(0, 1, true));
-        x = army("..#../...../.....;99", SOLDIER, 0, 12, BENT, 1, 7);
+        x = Due.army("..#../...../.....;99", SOLDIER, 0, 12, BENT, 1, 7);
         Due.is("cover at the end of a column", 0, x.shoot(0, 1, true));
     }
 
     private static void andSoOnFromThere() {
         Due.says("(and so on from there, if it is BENT)");
-        TinSoldiers x = army(OPEN, SOLDIER, 0, 5, BENT, 1, 6, BENT, 0, 7, BENT, 1, 8, SOLDIER, 0, 9);
+        TinSoldiers x = Due.army(OPEN, SOLDIER, 0, 5, BENT, 1, 6, BENT, 0, 7, BENT, 1, 8, SOLDIER, 0, 9);
         Due.is("through three, to the end of the row", 1, x.shoot(0, 1, true));
         standing("first", x, 1, 1, 1, 1, 0);
-        x = army(OPEN, SOLDIER, 0, 5, BENT, 1, 6, OFFICER, 0, 7, BENT, 1, 8, SOLDIER, 0, 9);
+        x = Due.army(OPEN, SOLDIER, 0, 5, BENT, 1, 6, OFFICER, 0, 7, BENT, 1, 8, SOLDIER, 0, 9);
         Due.is("an officer ends it", 0, x.shoot(0, 1, true));
         Due.is("the officer was hit", 1, x.about(2, 4));
         Due.is("the one behind was not", 0, x.about(3, 4));
-        x = army(OPEN, SOLDIER, 0, 5, BENT, 1, 6, SPY, 0, 7, SOLDIER, 0, 8);
+        x = Due.army(OPEN, SOLDIER, 0, 5, BENT, 1, 6, SPY, 0, 7, SOLDIER, 0, 8);
         Due.is("a spy ends it", 1, x.shoot(0, 1, true));
         standing("behind a spy", x, 1, 1, 1, 1);
-        x = army("...../...#./.....;99", SOLDIER, 0, 5, BENT, 1, 6, BENT, 0, 7, SOLDIER, 0, 9);
+        x = Due.army("...../...#./.....;99", SOLDIER, 0, 5, BENT, 1, 6, BENT, 0, 7, SOLDIER, 0, 9);
         Due.is("cover ends it", 0, x.shoot(0, 1, true));
         Due.is("the second one was hit", 1, x.about(2, 4));
-        x = army(OPEN, SOLDIER, 0, 12, BENT, 1, 7, BENT, 1, 2);
+        x = Due.army(OPEN, SOLDIER, 0, 12, BENT, 1, 7, BENT, 1, 2);
         Due.is("the edge ends it", 0, x.shoot(0, 1, true));
         Due.is("the second one was hit", 1, x.about(2, 4));
     }
 
     private static void aMissFliesNowhere() {
         Due.says("From a BENT one, whether it falls or not");
-        TinSoldiers x = army(OPEN, SOLDIER, 0, 0, BENT, 1, 1, SOLDIER, 1, 2);
+        TinSoldiers x = Due.army(OPEN, SOLDIER, 0, 0, BENT, 1, 1, SOLDIER, 1, 2);
         Due.is("a miss", 0, x.shoot(0, 1, false));
         Due.is("it was not hit", 0, x.about(1, 4));
         standing("missed", x, 1, 1, 1);
@@ -306,7 +296,7 @@ public final class EdgesOfShotsTest {
 
     private static void howManyByOneShot() {
         Due.says("how many fell or went over by it");
-        TinSoldiers x = army(OPEN, SOLDIER, 0, 5, BENT, 1, 6, BENT, 1, 7, BENT, 1, 8, SPY, 1, 9);
+        TinSoldiers x = Due.army(OPEN, SOLDIER, 0, 5, BENT, 1, 6, BENT, 1, 7, BENT, 1, 8, SPY, 1, 9);
         Due.is("the spy alone", 1, x.shoot(0, 1, true));
         Due.is("three fall and the spy goes back", 4, x.shoot(0, 1, true));
         standing("then", x, 1, 0, 0, 0, 1);
@@ -321,13 +311,13 @@ public final class EdgesOfShotsTest {
         Due.is("without a carpet", 0, new TinSoldiers().dinner());
         TinSoldiers x = Due.laid(OPEN);
         Due.refused("without soldiers", x, x.digest(), 0, x.dinner());
-        x = army(OPEN, SOLDIER, 0, 0, SOLDIER, 1, 1);
+        x = Due.army(OPEN, SOLDIER, 0, 0, SOLDIER, 1, 1);
         Due.refused("nobody fell", x, x.digest(), 0, x.dinner());
     }
 
     private static void dinnerOfAll() {
         Due.says("DINNER: all that fell STAND up; nobody was HIT yet.");
-        TinSoldiers x = army(OPEN, SOLDIER, 0, 7, SOLDIER, 1, 6, GUNNER, 1, 8, OFFICER, 1, 2, BENT, 1, 12, SOLDIER, 1, 1);
+        TinSoldiers x = Due.army(OPEN, SOLDIER, 0, 7, SOLDIER, 1, 6, GUNNER, 1, 8, OFFICER, 1, 2, BENT, 1, 12, SOLDIER, 1, 1);
         for (int other = 1; other <= 5; other++) {
             x.shoot(0, other, true);
         }
@@ -346,7 +336,7 @@ public final class EdgesOfShotsTest {
 
     private static void dinnerLeavesTheRest() {
         Due.says("DINNER: all that fell STAND up; nobody was HIT yet.");
-        TinSoldiers x = army(OPEN, SOLDIER, 0, 0, SPY, 1, 1, SOLDIER, 1, 5);
+        TinSoldiers x = Due.army(OPEN, SOLDIER, 0, 0, SPY, 1, 1, SOLDIER, 1, 5);
         Due.sign(x, "n");
         x.tally(1);
         x.shoot(0, 1, true);
@@ -363,7 +353,7 @@ public final class EdgesOfShotsTest {
     private static void noTreatyAtFirst() {
         Due.says("At first there is none. BREACH: of the SHOTS done since it was read the first one that it forbids "
             + "(it is done all the same): its number, as all SHOTS are counted from 1; none.");
-        TinSoldiers x = army(OPEN, GUNNER, 0, 0, OFFICER, 1, 6);
+        TinSoldiers x = Due.army(OPEN, GUNNER, 0, 0, OFFICER, 1, 6);
         x.shoot(0, 1, false);
         x.shoot(0, 1, false);
         Due.is("no treaty", 0, x.count(7));
@@ -372,7 +362,7 @@ public final class EdgesOfShotsTest {
 
     /** Whether a treaty forbids one shot, the first of all. */
     private static void forbidden(String treaty, boolean want, int kind, int from, int other, int to) {
-        TinSoldiers x = army(OPEN, kind, 0, from, other, 1, to);
+        TinSoldiers x = Due.army(OPEN, kind, 0, from, other, 1, to);
         Due.sign(x, treaty);
         x.shoot(0, 1, false);
         String told = treaty + ", kind " + kind + " on " + from + " at " + other + " on " + to;
@@ -386,7 +376,7 @@ public final class EdgesOfShotsTest {
             forbidden("o", false, kind, 0, SOLDIER, 1);
             forbidden("ndtg", false, SOLDIER, 0, kind, 2);
         }
-        TinSoldiers x = army(OPEN, SOLDIER, 0, 0, OFFICER, 1, 1, SOLDIER, 1, 5);
+        TinSoldiers x = Due.army(OPEN, SOLDIER, 0, 0, OFFICER, 1, 1, SOLDIER, 1, 5);
         Due.sign(x, "o");
         x.shoot(0, 2, true);
         Due.is("another one is shot at", NONE, x.count(8));
@@ -430,7 +420,7 @@ public final class EdgesOfShotsTest {
 
     private static void notBehindItsOwn() {
         Due.says("\"t\" no SIDE shoots right behind its own SHOT");
-        TinSoldiers x = army(OPEN, SOLDIER, 0, 0, SOLDIER, 1, 1, SOLDIER, 0, 2);
+        TinSoldiers x = Due.army(OPEN, SOLDIER, 0, 0, SOLDIER, 1, 1, SOLDIER, 0, 2);
         Due.sign(x, "t");
         x.shoot(0, 1, false);
         Due.is("the first shot of all", NONE, x.count(8));
@@ -441,12 +431,12 @@ public final class EdgesOfShotsTest {
         x.dinner();
         x.shoot(1, 0, false);
         Due.is("its own, behind dinner, too", 5, x.count(8));
-        x = army(OPEN, SOLDIER, 0, 0, SOLDIER, 1, 1, SOLDIER, 0, 2);
+        x = Due.army(OPEN, SOLDIER, 0, 0, SOLDIER, 1, 1, SOLDIER, 0, 2);
         Due.sign(x, "t");
         x.shoot(0, 1, false);
         x.shoot(2, 1, false);
         Due.is("another one of its side", 2, x.count(8));
-        x = army(OPEN, SOLDIER, 0, 0, SOLDIER, 1, 1);
+        x = Due.army(OPEN, SOLDIER, 0, 0, SOLDIER, 1, 1);
         Due.sign(x, "odg");
         x.shoot(1, 0, false);
         x.shoot(1, 0, false);
@@ -455,7 +445,7 @@ public final class EdgesOfShotsTest {
     }
 
     private static void spiesAndTurns() {
-        TinSoldiers x = army(OPEN, SPY, 1, 0, SOLDIER, 0, 1, SOLDIER, 1, 2);
+        TinSoldiers x = Due.army(OPEN, SPY, 1, 0, SOLDIER, 0, 1, SOLDIER, 1, 2);
         Due.sign(x, "t");
         x.shoot(0, 1, false);
         x.shoot(1, 0, true);
@@ -464,7 +454,7 @@ public final class EdgesOfShotsTest {
         x.move(2, 1);
         x.shoot(0, 2, false);
         Due.is("for its new side, behind a shot of that", 3, x.count(8));
-        x = army(OPEN, SPY, 1, 0, SOLDIER, 0, 1, SOLDIER, 1, 6);
+        x = Due.army(OPEN, SPY, 1, 0, SOLDIER, 0, 1, SOLDIER, 1, 6);
         Due.sign(x, "t");
         x.shoot(1, 0, true);
         x.shoot(2, 0, false);
@@ -475,7 +465,7 @@ public final class EdgesOfShotsTest {
     private static void notBehindItsOwnAheadOfTheTreaty() {
         Due.says("no SIDE shoots right behind its own SHOT");
         for (int side = 0; side <= 1; side++) {
-            TinSoldiers x = army(OPEN, SOLDIER, 0, 0, SOLDIER, 1, 1);
+            TinSoldiers x = Due.army(OPEN, SOLDIER, 0, 0, SOLDIER, 1, 1);
             x.shoot(0, 1, false);
             Due.sign(x, "t");
             x.shoot(side, 1 - side, false);
@@ -485,7 +475,7 @@ public final class EdgesOfShotsTest {
 
     private static void sinceItWasRead() {
         Due.says("of the SHOTS done since it was read");
-        TinSoldiers x = army(OPEN, GUNNER, 0, 0, SOLDIER, 1, 2);
+        TinSoldiers x = Due.army(OPEN, GUNNER, 0, 0, SOLDIER, 1, 2);
         x.shoot(0, 1, false);
         Due.sign(x, "g");
         Due.is("none since", NONE, x.count(8));
@@ -501,7 +491,7 @@ public final class EdgesOfShotsTest {
 
     private static void theFirstOne() {
         Due.says("the first one that it forbids");
-        TinSoldiers x = army(OPEN, GUNNER, 0, 0, SOLDIER, 1, 1);
+        TinSoldiers x = Due.army(OPEN, GUNNER, 0, 0, SOLDIER, 1, 1);
         Due.sign(x, "gnt");
         x.shoot(0, 1, false);
         Due.is("the first shot", 1, x.count(8));
@@ -513,7 +503,7 @@ public final class EdgesOfShotsTest {
 
     private static void doneAllTheSame() {
         Due.says("(it is done all the same)");
-        TinSoldiers x = army(OPEN, GUNNER, 0, 0, SOLDIER, 1, 1);
+        TinSoldiers x = Due.army(OPEN, GUNNER, 0, 0, SOLDIER, 1, 1);
         Due.sign(x, "g");
         Due.is("shoot(0, 1, true)", 1, x.shoot(0, 1, true));
         standing("forbidden", x, 1, 0);
@@ -524,7 +514,7 @@ public final class EdgesOfShotsTest {
 
     private static void refusedShotsAreNone() {
         Due.says("its number, as all SHOTS are counted from 1");
-        TinSoldiers x = army(OPEN, GUNNER, 0, 0, SOLDIER, 1, 1, SOLDIER, 1, 2);
+        TinSoldiers x = Due.army(OPEN, GUNNER, 0, 0, SOLDIER, 1, 1, SOLDIER, 1, 2);
         Due.sign(x, "g");
         x.shoot(0, 2, true);
         x.shoot(0, 0, true);

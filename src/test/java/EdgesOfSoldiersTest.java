@@ -3,7 +3,6 @@ public final class EdgesOfSoldiersTest {
     private static final int NONE = -1, UNKNOWN = -101, OUTSIDE = -102, STATE = -103, FULL = -104;
     private static final int SOLDIER = 0, OFFICER = 1, SPY = 2, GUNNER = 3, BENT = 4;
     private static final String OPEN = "...../...../.....;99";
-    private static final int[] FAR = {Integer.MIN_VALUE, -65536, -256, 256, 65536, Integer.MAX_VALUE};
 
     public static void main(String[] args) {
         kindsAndSides();
@@ -63,7 +62,7 @@ public final class EdgesOfSoldiersTest {
         Due.is("soldier(5, 0, 0)", OUTSIDE, x.soldier(5, 0, 0));
         Due.is("soldier(0, -1, 0)", OUTSIDE, x.soldier(0, -1, 0));
         Due.is("soldier(0, 2, 0)", OUTSIDE, x.soldier(0, 2, 0));
-        for (int far : FAR) {
+        for (int far : Due.FAR) {
             Due.is("soldier(" + far + ", 0, 0)", OUTSIDE, x.soldier(far, 0, 0));
             Due.is("soldier(0, " + far + ", 0)", OUTSIDE, x.soldier(0, far, 0));
         }
@@ -80,7 +79,7 @@ public final class EdgesOfSoldiersTest {
         TinSoldiers x = Due.laid(OPEN);
         Due.refused("soldier(0, 0, -1)", x, x.digest(), UNKNOWN, x.soldier(SOLDIER, 0, -1));
         Due.refused("soldier(0, 0, 15)", x, x.digest(), UNKNOWN, x.soldier(SOLDIER, 0, 15));
-        for (int far : FAR) {
+        for (int far : Due.FAR) {
             Due.is("soldier(0, 0, " + far + ")", UNKNOWN, x.soldier(SOLDIER, 0, far));
         }
         Due.is("soldier(0, 0, 0) without a carpet", UNKNOWN, new TinSoldiers().soldier(SOLDIER, 0, 0));
@@ -174,7 +173,7 @@ public final class EdgesOfSoldiersTest {
                 x.soldier(SOLDIER, 0, many);
             }
         }
-        for (int far : FAR) {
+        for (int far : Due.FAR) {
             Due.is("about(" + far + ", 0)", UNKNOWN, x.about(far, 0));
         }
         Due.is("about(0, 0) without a carpet", UNKNOWN, new TinSoldiers().about(0, 0));
@@ -189,7 +188,7 @@ public final class EdgesOfSoldiersTest {
         }
         Due.is("about(0, -1)", OUTSIDE, x.about(0, -1));
         Due.is("about(0, 6)", OUTSIDE, x.about(0, 6));
-        for (int far : FAR) {
+        for (int far : Due.FAR) {
             Due.is("about(0, " + far + ")", OUTSIDE, x.about(0, far));
         }
     }
@@ -249,7 +248,7 @@ public final class EdgesOfSoldiersTest {
         Due.is("as(1, 5)", OUTSIDE, x.as(1, 5));
         Due.is("as(0, 0)", 0, x.as(0, 0));
         Due.is("as(1, 4)", 1, x.as(1, 4));
-        for (int far : FAR) {
+        for (int far : Due.FAR) {
             Due.is("as(" + far + ", 0)", UNKNOWN, x.as(far, 0));
             Due.is("as(0, " + far + ")", OUTSIDE, x.as(0, far));
         }
@@ -286,7 +285,7 @@ public final class EdgesOfSoldiersTest {
         Due.is("move(0, 15)", UNKNOWN, x.move(0, 15));
         Due.is("move(2, 0), cover", UNKNOWN, x.move(2, 0));
         Due.is("move(-1, 1), somebody", UNKNOWN, x.move(-1, 1));
-        for (int far : FAR) {
+        for (int far : Due.FAR) {
             Due.is("move(" + far + ", 3)", UNKNOWN, x.move(far, 3));
             Due.is("move(0, " + far + ")", UNKNOWN, x.move(0, far));
         }
@@ -347,7 +346,7 @@ public final class EdgesOfSoldiersTest {
         Due.is("tenths(2, 0)", UNKNOWN, x.tenths(2, 0));
         Due.is("tenths(0, 2)", UNKNOWN, x.tenths(0, 2));
         Due.is("tenths(2, 2)", UNKNOWN, x.tenths(2, 2));
-        for (int far : FAR) {
+        for (int far : Due.FAR) {
             Due.is("tenths(" + far + ", 0)", UNKNOWN, x.tenths(far, 0));
             Due.is("tenths(0, " + far + ")", UNKNOWN, x.tenths(0, far));
         }

@@ -2,7 +2,6 @@
 public final class EdgesOfTextsTest {
     private static final int NONE = -1, UNKNOWN = -101, OUTSIDE = -102, STATE = -103, FULL = -104;
     private static final String OPEN = "...../...../.....;99";
-    private static final int[] FAR = {Integer.MIN_VALUE, -65536, -256, 256 + 46, 65536 + 46, Integer.MAX_VALUE};
 
     public static void main(String[] args) {
         nothingAtFirst();
@@ -75,7 +74,7 @@ public final class EdgesOfTextsTest {
             Due.is("letter(" + code + ")", taken ? 1 : OUTSIDE, x.letter(code));
             Due.is("letters behind letter(" + code + ")", taken ? 1 : 0, x.count(10));
         }
-        for (int code : FAR) {
+        for (int code : Due.FAR) {
             Due.is("letter(" + code + ")", OUTSIDE, new TinSoldiers().letter(code));
         }
     }
@@ -120,7 +119,7 @@ public final class EdgesOfTextsTest {
         Due.is("fault(1)", 1, x.fault(1));
         Due.is("fault(-1)", OUTSIDE, x.fault(-1));
         Due.is("fault(2)", OUTSIDE, x.fault(2));
-        for (int sort : FAR) {
+        for (int sort : Due.FAR) {
             Due.is("fault(" + sort + ")", OUTSIDE, x.fault(sort));
         }
         Due.is("the page stays", 2, x.count(10));
@@ -449,7 +448,7 @@ public final class EdgesOfTextsTest {
             TinSoldiers x = Due.laid(OPEN);
             Due.is("cell(-1, " + what + ")", UNKNOWN, x.cell(-1, what));
             Due.is("cell(15, " + what + ")", UNKNOWN, x.cell(15, what));
-            for (int cell : FAR) {
+            for (int cell : Due.FAR) {
                 Due.is("cell(" + cell + ", " + what + ")", UNKNOWN, x.cell(cell, what));
             }
         }
@@ -470,7 +469,7 @@ public final class EdgesOfTextsTest {
         TinSoldiers x = Due.laid(OPEN);
         Due.is("cell(0, -1)", OUTSIDE, x.cell(0, -1));
         Due.is("cell(14, 3)", OUTSIDE, x.cell(14, 3));
-        for (int what : FAR) {
+        for (int what : Due.FAR) {
             Due.is("cell(0, " + what + ")", OUTSIDE, x.cell(0, what));
         }
     }

@@ -3,7 +3,6 @@ public final class EdgesOfWouldBeTest {
     private static final int NONE = -1, OUTSIDE = -102, STATE = -103;
     private static final int SOLDIER = 0, OFFICER = 1, SPY = 2, GUNNER = 3, BENT = 4;
     private static final String OPEN = "...../...../.....;99";
-    private static final int[] FAR = {Integer.MIN_VALUE, -65536, -256, 256, 65536, Integer.MAX_VALUE};
 
     public static void main(String[] args) {
         whatOfWatch();
@@ -40,14 +39,6 @@ public final class EdgesOfWouldBeTest {
         Due.end();
     }
 
-    private static TinSoldiers army(String carpet, int... told) {
-        TinSoldiers x = Due.laid(carpet);
-        for (int i = 0; i + 2 < told.length; i += 3) {
-            Due.is("soldier " + i / 3, i / 3, x.soldier(told[i], told[i + 1], told[i + 2]));
-        }
-        return x;
-    }
-
     // ---- watch
 
     private static void whatOfWatch() {
@@ -56,7 +47,7 @@ public final class EdgesOfWouldBeTest {
         TinSoldiers x = Due.laid(OPEN);
         Due.refused("watch(-1)", x, x.digest(), OUTSIDE, x.watch(-1));
         Due.refused("watch(2)", x, x.digest(), OUTSIDE, x.watch(2));
-        for (int far : FAR) {
+        for (int far : Due.FAR) {
             Due.is("watch(" + far + ")", OUTSIDE, x.watch(far));
         }
         Due.is("none was done", 0, x.count(12));
@@ -145,7 +136,7 @@ public final class EdgesOfWouldBeTest {
 
     private static void watchWhoeverStands() {
         Due.says("(whoever STANDS there)");
-        TinSoldiers x = army(OPEN, SOLDIER, 0, 2, SOLDIER, 1, 7, SPY, 0, 6, BENT, 1, 8, SOLDIER, 0, 1, SOLDIER, 1, 3);
+        TinSoldiers x = Due.army(OPEN, SOLDIER, 0, 2, SOLDIER, 1, 7, SPY, 0, 6, BENT, 1, 8, SOLDIER, 0, 1, SOLDIER, 1, 3);
         Due.is("watch(0)", 2, x.watch(0));
         Due.is("watch(1)", 132, x.watch(1));
     }
@@ -154,7 +145,7 @@ public final class EdgesOfWouldBeTest {
 
     private static void argumentsOfBest() {
         Due.says("OUTSIDE: side, shots, what; STATE: no CARPET, or best() was done 20 times.");
-        TinSoldiers x = army(OPEN, SOLDIER, 0, 0, SOLDIER, 1, 1);
+        TinSoldiers x = Due.army(OPEN, SOLDIER, 0, 0, SOLDIER, 1, 1);
         Due.refused("best(-1, 1, 0)", x, x.digest(), OUTSIDE, x.best(-1, 1, 0));
         Due.refused("best(2, 1, 0)", x, x.digest(), OUTSIDE, x.best(2, 1, 0));
         Due.refused("best(0, 0, 0)", x, x.digest(), OUTSIDE, x.best(0, 0, 0));
@@ -162,7 +153,7 @@ public final class EdgesOfWouldBeTest {
         Due.refused("best(0, -1, 0)", x, x.digest(), OUTSIDE, x.best(0, -1, 0));
         Due.refused("best(0, 1, -1)", x, x.digest(), OUTSIDE, x.best(0, 1, -1));
         Due.refused("best(0, 1, 3)", x, x.digest(), OUTSIDE, x.best(0, 1, 3));
-        for (int far : FAR) {
+        for (int far : Due.FAR) {
             Due.is("best(" + far + ", 1, 0)", OUTSIDE, x.best(far, 1, 0));
             Due.is("best(0, " + far + ", 0)", OUTSIDE, x.best(0, far, 0));
             Due.is("best(0, 1, " + far + ")", OUTSIDE, x.best(0, 1, far));
@@ -186,7 +177,7 @@ public final class EdgesOfWouldBeTest {
 
     private static void bestTwentyTimes() {
         Due.says("or best() was done 20 times");
-        TinSoldiers x = army(OPEN, SOLDIER, 0, 0, SOLDIER, 1, 1);
+        TinSoldiers x = Due.army(OPEN, SOLDIER, 0, 0, SOLDIER, 1, 1);
         x.image();
         int[] want = {4, 5, 1};
         for (int done = 1; done <= 20; done++) {
@@ -254,10 +245,10 @@ public final class EdgesOfWouldBeTest {
 
     private static void bestWithoutPeas() {
         Due.says("if its SIDE has a PEA");
-        TinSoldiers x = army("...../...../.....;00", SOLDIER, 0, 0, SOLDIER, 1, 1, SPY, 1, 5);
+        TinSoldiers x = Due.army("...../...../.....;00", SOLDIER, 0, 0, SOLDIER, 1, 1, SPY, 1, 5);
         best(x, 0, 3, -1, 1, NONE);
         best(x, 1, 3, 1, 1, NONE);
-        x = army("...../...../.....;09", SOLDIER, 0, 0, SOLDIER, 1, 1);
+        x = Due.army("...../...../.....;09", SOLDIER, 0, 0, SOLDIER, 1, 1);
         best(x, 0, 1, 0, 1, NONE);
         best(x, 0, 2, -4, 5, NONE);
         best(x, 0, 3, -4, 5, NONE);
@@ -265,7 +256,7 @@ public final class EdgesOfWouldBeTest {
 
     private static void oneToThreeShots() {
         Due.says("BEST for a SIDE, by so many SHOTS (1 to 3)");
-        TinSoldiers x = army(OPEN, GUNNER, 0, 0, SOLDIER, 1, 4);
+        TinSoldiers x = Due.army(OPEN, GUNNER, 0, 0, SOLDIER, 1, 4);
         best(x, 0, 1, 3, 5, 1);
         // 6 tenths of 1, and 4 tenths of -2 tenths.
         best(x, 0, 2, 13, 25, 1);
@@ -275,7 +266,7 @@ public final class EdgesOfWouldBeTest {
 
     private static void inTurn() {
         Due.says("it shoots first, then the other SIDE, in turn");
-        TinSoldiers x = army("...../...../.....;29", SOLDIER, 0, 0, OFFICER, 1, 1);
+        TinSoldiers x = Due.army("...../...../.....;29", SOLDIER, 0, 0, OFFICER, 1, 1);
         best(x, 0, 1, 0, 1, NONE);
         best(x, 1, 1, 4, 5, 6);
         best(x, 0, 2, -4, 5, NONE);
@@ -285,26 +276,26 @@ public final class EdgesOfWouldBeTest {
 
     private static void lowestTerms() {
         Due.says("what = 0 the MEAN above, 1 below, in lowest terms, 2 the first SHOT (NONE: passing).");
-        TinSoldiers x = army(OPEN, GUNNER, 0, 0, SOLDIER, 1, 1);
+        TinSoldiers x = Due.army(OPEN, GUNNER, 0, 0, SOLDIER, 1, 1);
         best(x, 0, 1, 9, 10, 1);
-        x = army(OPEN, SOLDIER, 0, 0, SOLDIER, 1, 1, SOLDIER, 1, 10);
+        x = Due.army(OPEN, SOLDIER, 0, 0, SOLDIER, 1, 1, SOLDIER, 1, 10);
         best(x, 0, 1, -1, 5, 1);
-        x = army("...../...../.....;90", GUNNER, 0, 0, SOLDIER, 1, 1);
+        x = Due.army("...../...../.....;90", GUNNER, 0, 0, SOLDIER, 1, 1);
         best(x, 0, 3, 99, 100, 1);
-        x = army(OPEN, GUNNER, 0, 0, GUNNER, 1, 1);
+        x = Due.army(OPEN, GUNNER, 0, 0, GUNNER, 1, 1);
         // 9 tenths, a tenth of (-9 tenths, and a tenth of 9 tenths).
         best(x, 0, 3, 819, 1000, 1);
-        x = army(OPEN, SOLDIER, 0, 0, OFFICER, 1, 1);
+        x = Due.army(OPEN, SOLDIER, 0, 0, OFFICER, 1, 1);
         best(x, 0, 1, 0, 1, NONE);
     }
 
     private static void passingIfAsGood() {
         Due.says("but passing, if that is as good");
-        TinSoldiers x = army(OPEN, SOLDIER, 0, 0, OFFICER, 1, 1);
+        TinSoldiers x = Due.army(OPEN, SOLDIER, 0, 0, OFFICER, 1, 1);
         best(x, 0, 1, 0, 1, NONE);
-        x = army(OPEN, SOLDIER, 0, 0, BENT, 1, 1);
+        x = Due.army(OPEN, SOLDIER, 0, 0, BENT, 1, 1);
         best(x, 0, 1, 0, 1, NONE);
-        x = army(OPEN, SOLDIER, 0, 0, SOLDIER, 1, 7);
+        x = Due.army(OPEN, SOLDIER, 0, 0, SOLDIER, 1, 7);
         best(x, 0, 3, 0, 1, NONE);
         x.move(1, 1);
         best(x, 0, 1, 4, 5, 1);
@@ -312,7 +303,7 @@ public final class EdgesOfWouldBeTest {
 
     private static void ofLikeOnesTheLeast() {
         Due.says("the first SHOT: 6 times who shoots, and at whom, together: of like ones the least");
-        TinSoldiers x = army(OPEN, SOLDIER, 0, 7, SOLDIER, 0, 6, SOLDIER, 1, 1, SOLDIER, 1, 2);
+        TinSoldiers x = Due.army(OPEN, SOLDIER, 0, 7, SOLDIER, 0, 6, SOLDIER, 1, 1, SOLDIER, 1, 2);
         best(x, 0, 1, 4, 5, 2);
         best(x, 1, 1, 4, 5, 12);
         x.move(0, 14);
@@ -325,10 +316,10 @@ public final class EdgesOfWouldBeTest {
 
     private static void leastAndLargestShot() {
         Due.says("6 times who shoots, and at whom, together");
-        TinSoldiers x = army(OPEN, SOLDIER, 0, 0, SOLDIER, 1, 1);
+        TinSoldiers x = Due.army(OPEN, SOLDIER, 0, 0, SOLDIER, 1, 1);
         best(x, 0, 1, 4, 5, 1);
         best(x, 1, 1, 4, 5, 6);
-        x = army(OPEN, SOLDIER, 0, 0, SOLDIER, 0, 1, SOLDIER, 0, 2, SOLDIER, 0, 3, SOLDIER, 0, 9, SOLDIER, 1, 14);
+        x = Due.army(OPEN, SOLDIER, 0, 0, SOLDIER, 0, 1, SOLDIER, 0, 2, SOLDIER, 0, 3, SOLDIER, 0, 9, SOLDIER, 1, 14);
         best(x, 1, 1, -16, 5, 34);
         best(x, 0, 1, 24, 5, 29);
     }
@@ -336,16 +327,16 @@ public final class EdgesOfWouldBeTest {
     private static void leastForTheOtherSide() {
         Due.says("is most on the MEAN (the other SIDE: least), by TENTHS");
         // The other side has an officer and a soldier to shoot at: it takes the one that falls.
-        TinSoldiers x = army("...../...../.....;01", OFFICER, 0, 0, SOLDIER, 0, 2, SOLDIER, 1, 1);
+        TinSoldiers x = Due.army("...../...../.....;01", OFFICER, 0, 0, SOLDIER, 0, 2, SOLDIER, 1, 1);
         best(x, 0, 2, 1, 5, NONE);
         // It would pass if shooting made its own side fall.
-        x = army("...../...../.....;01", BENT, 0, 1, SOLDIER, 1, 0, SOLDIER, 1, 2);
+        x = Due.army("...../...../.....;01", BENT, 0, 1, SOLDIER, 1, 0, SOLDIER, 1, 2);
         best(x, 0, 2, -1, 1, NONE);
     }
 
     private static void whoFellAlready() {
         Due.says("how many of the first SIDE STAND in the end");
-        TinSoldiers x = army(OPEN, SOLDIER, 0, 0, SOLDIER, 1, 1, SOLDIER, 1, 2);
+        TinSoldiers x = Due.army(OPEN, SOLDIER, 0, 0, SOLDIER, 1, 1, SOLDIER, 1, 2);
         x.shoot(0, 1, true);
         // The way is free past the fallen one, two cells far.
         best(x, 0, 1, 3, 5, 2);
@@ -358,7 +349,7 @@ public final class EdgesOfWouldBeTest {
     private static void whoWasHitAlready() {
         Due.says("only as it is HIT for the second time (since it STOOD up)");
         for (int kind : new int[] {OFFICER, BENT}) {
-            TinSoldiers x = army(OPEN, SOLDIER, 0, 0, kind, 1, 1);
+            TinSoldiers x = Due.army(OPEN, SOLDIER, 0, 0, kind, 1, 1);
             x.shoot(0, 1, true);
             best(x, 0, 1, 4, 5, 1);
             x.dinner();
@@ -368,46 +359,46 @@ public final class EdgesOfWouldBeTest {
 
     private static void peaThatFliesOn() {
         Due.says("the pea flies on the same way");
-        TinSoldiers x = army(OPEN, SOLDIER, 0, 0, BENT, 1, 1, SOLDIER, 1, 4);
+        TinSoldiers x = Due.army(OPEN, SOLDIER, 0, 0, BENT, 1, 1, SOLDIER, 1, 4);
         best(x, 0, 1, -1, 5, 1);
-        x = army(OPEN, SOLDIER, 0, 0, BENT, 1, 1, SOLDIER, 0, 4);
+        x = Due.army(OPEN, SOLDIER, 0, 0, BENT, 1, 1, SOLDIER, 0, 4);
         best(x, 0, 1, 1, 1, NONE);
     }
 
     private static void spiesInBest() {
         Due.says("but is of the other SIDE from then on");
-        TinSoldiers x = army(OPEN, SOLDIER, 0, 0, SPY, 1, 1);
+        TinSoldiers x = Due.army(OPEN, SOLDIER, 0, 0, SPY, 1, 1);
         best(x, 0, 1, 8, 5, 1);
         // If it went over nobody is left who shoots; if not it shoots by 8 tenths.
         best(x, 0, 2, 36, 25, 1);
         // One that went over shoots for its new side, with that side's peas: 8 tenths of (1 and 8 tenths),
         // and 2 tenths of (8 tenths of 1, and 2 tenths of -1).
-        x = army("...../...../.....;20", SOLDIER, 0, 0, SPY, 1, 1, SOLDIER, 1, 2);
+        x = Due.army("...../...../.....;20", SOLDIER, 0, 0, SPY, 1, 1, SOLDIER, 1, 2);
         best(x, 0, 3, 39, 25, 1);
-        x = army("...../...../.....;10", SOLDIER, 0, 0, SPY, 1, 1, SOLDIER, 1, 2);
+        x = Due.army("...../...../.....;10", SOLDIER, 0, 0, SPY, 1, 1, SOLDIER, 1, 2);
         best(x, 0, 3, 3, 5, NONE);
     }
 
     private static void bestTakesPeas() {
         Due.says("A SHOT takes a PEA of its SIDE.");
-        TinSoldiers x = army("...../...../.....;10", SOLDIER, 0, 0, SOLDIER, 1, 1);
+        TinSoldiers x = Due.army("...../...../.....;10", SOLDIER, 0, 0, SOLDIER, 1, 1);
         best(x, 0, 3, 4, 5, NONE);
-        x = army("...../...../.....;20", SOLDIER, 0, 0, SOLDIER, 1, 1);
+        x = Due.army("...../...../.....;20", SOLDIER, 0, 0, SOLDIER, 1, 1);
         best(x, 0, 3, 24, 25, 1);
-        x = army("...../...../.....;01", SOLDIER, 0, 0, SOLDIER, 1, 1);
+        x = Due.army("...../...../.....;01", SOLDIER, 0, 0, SOLDIER, 1, 1);
         best(x, 1, 3, 4, 5, NONE);
     }
 
     private static void bestByCover() {
         Due.says("2 less if there is COVER on one of the CELLS around the other one (eight, or fewer); 1 at least.");
-        TinSoldiers x = army("...../....#/.....;99", SOLDIER, 0, 0, SOLDIER, 1, 4);
+        TinSoldiers x = Due.army("...../....#/.....;99", SOLDIER, 0, 0, SOLDIER, 1, 4);
         best(x, 0, 1, 1, 10, 1);
         best(x, 1, 1, 1, 5, 6);
     }
 
     private static void bestIgnoresTreaty() {
         Due.says("(no TREATY counts)");
-        TinSoldiers x = army(OPEN, GUNNER, 0, 0, SOLDIER, 1, 6);
+        TinSoldiers x = Due.army(OPEN, GUNNER, 0, 0, SOLDIER, 1, 6);
         Due.sign(x, "dngt");
         best(x, 0, 1, 9, 10, 1);
         Due.is("no breach by it", NONE, x.count(8));
@@ -415,7 +406,7 @@ public final class EdgesOfWouldBeTest {
 
     private static void bestChangesNothingElse() {
         Due.says("13 best()");
-        TinSoldiers x = army(OPEN, GUNNER, 0, 0, BENT, 1, 1, SPY, 1, 2, SPY, 0, 5, OFFICER, 1, 6);
+        TinSoldiers x = Due.army(OPEN, GUNNER, 0, 0, BENT, 1, 1, SPY, 1, 2, SPY, 0, 5, OFFICER, 1, 6);
         Due.sign(x, "t");
         x.shoot(1, 0, false);
         long before = x.digest();

@@ -9,7 +9,7 @@ import java.util.function.ToLongFunction;
  * the image) shows in how they go on.
  */
 final class Twins {
-    private static final int WAYS_TO_GO_ON = 7;
+    private static final int WAYS_TO_GO_ON = 9;
 
     private Twins() {
     }
@@ -33,18 +33,19 @@ final class Twins {
         List<Long> answers = new ArrayList<>();
         switch (way) {
             case 0 -> askAll(x, answers);
-            case 1 -> shootAll(x, false, answers);
-            case 2 -> shootInTurn(x, answers);
-            case 3 -> {
-                answers.add((long) x.restore());
-                askAll(x, answers);
-                shootAll(x, false, answers);
-            }
+            case 1 -> shootAll(x, false, false, answers);
+            case 2 -> shootInTurn(x, false, answers);
+            case 3 -> shootInTurn(x, true, answers);
             case 4 -> {
                 answers.add((long) x.restore());
-                shootInTurn(x, answers);
+                askAll(x, answers);
+                shootAll(x, false, false, answers);
             }
-            case 5 -> {
+            case 5, 6 -> {
+                answers.add((long) x.restore());
+                shootInTurn(x, way == 6, answers);
+            }
+            case 7 -> {
                 answers.add((long) x.treaty());
                 answers.add((long) x.carpet());
                 askAll(x, answers);
@@ -52,7 +53,7 @@ final class Twins {
             default -> {
                 answers.add((long) x.dinner());
                 answers.add((long) x.image());
-                shootAll(x, true, answers);
+                shootAll(x, true, false, answers);
                 answers.add((long) x.soldier(4, 0, 14));
                 answers.add((long) x.restore());
                 askAll(x, answers);
@@ -81,19 +82,24 @@ final class Twins {
         answers.add((long) x.fits());
     }
 
-    private static void shootAll(TinSoldiers x, boolean hits, List<Long> answers) {
-        for (int pair = 0; pair < 36; pair++) {
-            answers.add((long) x.shoot(pair / 6, pair % 6, hits));
-            answers.add((long) x.count(8));
+    /** Shots that can be done alone: a refused one could hide what another refused one changed. */
+    private static void shootAll(TinSoldiers x, boolean hits, boolean backwards, List<Long> answers) {
+        for (int i = 0; i < 36; i++) {
+            int pair = backwards ? 35 - i : i;
+            if (x.tenths(pair / 6, pair % 6) > 0) {
+                answers.add((long) pair);
+                answers.add((long) x.shoot(pair / 6, pair % 6, hits));
+                answers.add((long) x.count(8));
+            }
         }
         answers.add(x.digest());
     }
 
     /** Under a treaty of "t" alone the first shot tells whose the last one was. */
-    private static void shootInTurn(TinSoldiers x, List<Long> answers) {
+    private static void shootInTurn(TinSoldiers x, boolean backwards, List<Long> answers) {
         x.blank();
         x.letter('t');
         answers.add((long) x.treaty());
-        shootAll(x, false, answers);
+        shootAll(x, false, backwards, answers);
     }
 }
