@@ -40,6 +40,7 @@ public final class LanguageTest {
                 found.add(told(method));
             } else {
                 Due.holds(method + " is private", Modifier.isPrivate(method.getModifiers()));
+                Due.holds(method + " has a name of its own", !names().contains(method.getName()));
             }
         }
         Due.holds("the public methods are those of the document: " + found, found.equals(new TreeSet<>(FACE)));
@@ -73,11 +74,16 @@ public final class LanguageTest {
         }
     }
 
-    private static void classesInside() {
+    private static Set<String> names() {
         Set<String> names = new TreeSet<>();
         for (String told : FACE) {
             names.add(told.substring(told.indexOf(' ') + 1, told.indexOf('(')));
         }
+        return names;
+    }
+
+    private static void classesInside() {
+        Set<String> names = names();
         Class<?>[] inside = TinSoldiers.class.getDeclaredClasses();
         Due.holds("at most twelve classes", inside.length + 1 <= 12);
         for (Class<?> one : inside) {
